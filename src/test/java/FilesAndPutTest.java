@@ -1,6 +1,6 @@
 /** Promises 5, 6, 8, 9 and 10: files, put, held, name, octet. */
 public final class FilesAndPutTest {
-    /** Two rows of bytes of one name; as their lengths differ, digests of what stands before them too do. */
+    /** Two rows of bytes of one name, but not of one length: with bytes before them their digests differ. */
     private static final String TWIN = "A";
     private static final String OTHER_TWIN = "\u00e8\u001e!";
 
@@ -51,6 +51,8 @@ public final class FilesAndPutTest {
         dueFiles(x, "F : " + Texts.letters(one) + "\n", 7);
         dueFiles(x, "F / " + Texts.letters(one) + "\n", 7);
         dueFiles(x, "F 1  " + Texts.letters(one) + "\n", 7);
+        dueFiles(x, "F 1_" + Texts.letters(one) + "\n", 7);
+        dueFiles(x, "F_1 " + Texts.letters(one) + "\n", 7);
         dueFiles(x, "F 1 aaaaaq\n", 7);
         dueFiles(x, "F 1 aaaaa`\n", 7);
         dueFiles(x, "F 1 aaaaa\n", 7);
