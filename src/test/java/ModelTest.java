@@ -6,6 +6,8 @@ import java.util.Random;
 public final class ModelTest {
     private static final int RUNS = 400;
     private static final int CALLS = 512;
+    /** More calls than one turn of writing and asking makes. */
+    private static final int MOST_OF_A_TURN = 50;
 
     private final Random random;
     private final ArtifactBags bags = new ArtifactBags();
@@ -35,7 +37,8 @@ public final class ModelTest {
 
     private void play() {
         int askEvery = 1 + random.nextInt(6);
-        while (calls < CALLS) {
+        boolean looksAtAll = random.nextInt(3) > 0;
+        while (calls + MOST_OF_A_TURN + (looksAtAll ? callsToAskAll() : 0) <= CALLS) {
             write();
             if (random.nextInt(askEvery) == 0) {
                 ask();
@@ -45,7 +48,13 @@ public final class ModelTest {
                 due("round(" + budget + ")", bags.round(budget), model.round(budget));
             }
         }
-        askAll();
+        if (looksAtAll) {
+            askAll();
+        }
+        while (calls < CALLS) {
+            due("round(100)", bags.round(100), model.round(100));
+        }
+        Check.due(run + "calls", calls, CALLS);
     }
 
     private void due(String call, long got, long want) {
@@ -195,13 +204,18 @@ public final class ModelTest {
         due("loose(" + r + ")", bags.loose(r), model.loose(r));
     }
 
-    /** Goes beyond the 512 calls of the document, to see the whole state at the end of a run. */
+    private int callsToAskAll() {
+        return 2 * 4 + 5 * (model.held(0) + 1) + 5 * (model.held(1) + 1);
+    }
+
+    /** Asks for the whole state at the end of a run, as far as the calls reach. */
     private void askAll() {
+        counts(0);
+        counts(1);
         for (int r = 0; r < 2; r++) {
-            counts(r);
-            for (int k = 0; k <= bags.held(r); k++) {
-                int name = bags.name(r, k);
-                due("name(" + r + ", " + k + ")", name, model.name(r, k));
+            for (int k = 0; k <= model.held(r) && calls + 5 <= CALLS; k++) {
+                int name = model.name(r, k);
+                due("name(" + r + ", " + k + ")", bags.name(r, k), name);
                 due("kind(" + r + ", " + name + ")", bags.kind(r, name), model.kind(r, name));
                 due("timeline(" + r + ", " + k + ")", bags.timeline(r, k), model.timeline(r, k));
                 due("children(" + r + ", " + name + ")", bags.children(r, name), model.children(r, name));

@@ -21,6 +21,24 @@ final class Texts {
         return (int) digest;
     }
 
+    /** A row of bytes of a given name (0 .. 16777212) and a length of at least 4; it is no text of cards. */
+    static String named(int name, int length) {
+        String start = "x".repeat(length - 4);
+        for (char first = 0; first < 256; first++) {
+            long due = Math.floorMod(name - 257L * 257 * 257 * digest(start + first), 16777213L);
+            for (long rest = due; rest < 257L * 257 * 257; rest += 16777213L) {
+                long high = rest / (257 * 257);
+                long middle = rest / 257 % 257;
+                long low = rest % 257;
+                // A digit 0 stands for no byte, as each byte counts for one more.
+                if (high > 0 && middle > 0 && low > 0) {
+                    return start + first + (char) (high - 1) + (char) (middle - 1) + (char) (low - 1);
+                }
+            }
+        }
+        throw new IllegalStateException("no row of " + length + " bytes has the name " + name);
+    }
+
     static String letters(int name) {
         StringBuilder letters = new StringBuilder();
         for (char digit : String.format("%06x", name).toCharArray()) {
@@ -60,6 +78,12 @@ final class Texts {
                 packed |= (bytes[at + i] & 255L) << (8 * i);
             }
             Check.due("raw of " + n + " bytes", x.raw(packed, n), at + n);
+        }
+    }
+
+    static void write(Model model, String text) {
+        for (byte b : bytes(text)) {
+            model.raw(b, 1);
         }
     }
 
