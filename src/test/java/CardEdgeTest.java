@@ -19,6 +19,7 @@ public final class CardEdgeTest {
         justOneSeal();
         justOneTimeAndOneDigest();
         mostCardsOfOneText();
+        linesThatEndTooEarly();
         eachOrderOfCards();
         eachByteOfAText();
         eachByteOfAFileCardInTheDraft();
@@ -212,6 +213,26 @@ public final class CardEdgeTest {
             members.append(Texts.line('M', 671088 * i));
         }
         dueSealed(3, members.toString());
+    }
+
+    /** A line that ends within a card, where no byte stands behind it: plain, and in the draft no F card. */
+    private static void linesThatEndTooEarly() {
+        String[] lines = (MANIFEST + CONTROL + CLUSTER + "P aaaaaa\n" + "Z aaaaah\n").split("\n");
+        for (String line : lines) {
+            for (int length = 0; length <= line.length(); length++) {
+                String cut = line.substring(0, length) + "\n";
+                dueKind(0, cut);
+                dueKind(0, D + cut);
+                dueKind(0, "x".repeat(239 - length) + cut);
+                dueKind(0, "x".repeat(238 - length) + "\n" + cut);
+                ArtifactBags x = new ArtifactBags();
+                Texts.put(x, 0, Texts.named(15, 4));
+                Texts.put(x, 0, Texts.named(15 << 20, 4));
+                Texts.write(x, "x".repeat(238 - length) + "\n" + cut);
+                boolean whole = length == line.length() && line.charAt(0) == 'F';
+                Check.due("whether files(0) is 7 at the end of a full draft", x.files(0) == 7, !whole);
+            }
+        }
     }
 
     /** "the first letters of the lines never fall", and which cards each kind has: all rows of up to four cards. */

@@ -45,6 +45,8 @@ public final class FilesAndPutTest {
         dueFiles(x, file + open, Texts.digest("one"));
         dueFiles(x, "x" + file, 7);
         dueFiles(x, "x\n\n" + file, Texts.digest("one"));
+        dueFiles(x, "\n" + file, Texts.digest("one"));
+        dueFiles(x, "\n", 7);
         dueFiles(x, open + " \n", 7);
         dueFiles(x, "F  1 " + Texts.letters(one) + "\n", 7);
         dueFiles(x, "F 10 " + Texts.letters(one) + "\n", 7);

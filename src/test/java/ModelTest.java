@@ -9,6 +9,8 @@ public final class ModelTest {
     /** More calls than one turn of writing and asking makes. */
     private static final int MOST_OF_A_TURN = 50;
 
+    private static final int[] WRONG = {-1, -2, 2, 16777216, 10001, Integer.MIN_VALUE, Integer.MAX_VALUE};
+
     private final Random random;
     private final ArtifactBags bags = new ArtifactBags();
     private final Model model = new Model();
@@ -44,7 +46,7 @@ public final class ModelTest {
                 ask();
             }
             if (random.nextInt(8) == 0) {
-                int budget = random.nextInt(4) == 0 ? random.nextInt(60) : random.nextInt(30) == 0 ? 10001 : 10000;
+                int budget = random.nextInt(4) == 0 ? random.nextInt(60) : random.nextInt(30) == 0 ? pickWrong() : 10000;
                 due("round(" + budget + ")", bags.round(budget), model.round(budget));
             }
         }
@@ -63,11 +65,16 @@ public final class ModelTest {
     }
 
     private int pickName() {
-        return random.nextInt(40) == 0 ? -1 - random.nextInt(2) : names.get(random.nextInt(names.size()));
+        return random.nextInt(40) == 0 ? pickWrong() : names.get(random.nextInt(names.size()));
     }
 
     private int pickRepository() {
-        return random.nextInt(60) == 0 ? 2 - 3 * random.nextInt(2) : random.nextInt(2);
+        return random.nextInt(60) == 0 ? pickWrong() : random.nextInt(2);
+    }
+
+    /** A number that is wrong in most places. */
+    private int pickWrong() {
+        return WRONG[random.nextInt(WRONG.length)];
     }
 
     private void card(int kind, int a, int b) {
@@ -103,7 +110,7 @@ public final class ModelTest {
                 cluster();
                 break;
             case 5:
-                raw(random.nextLong(), random.nextInt(10));
+                raw(random.nextLong(), random.nextInt(20) == 0 ? pickWrong() : random.nextInt(10));
                 break;
             default:
                 anyCards();
@@ -174,7 +181,7 @@ public final class ModelTest {
 
     private void anyCards() {
         for (int i = random.nextInt(4); i >= 0; i--) {
-            card(random.nextInt(8), random.nextBoolean() ? random.nextInt(22) - 11 : pickName(), pickName());
+            card(random.nextInt(30) == 0 ? pickWrong() : random.nextInt(8), random.nextBoolean() ? random.nextInt(22) - 11 : pickName(), pickName());
         }
         seal();
     }
@@ -182,7 +189,7 @@ public final class ModelTest {
     private void ask() {
         int r = pickRepository();
         int name = pickName();
-        int k = random.nextInt(12) - 1;
+        int k = random.nextInt(30) == 0 ? pickWrong() : random.nextInt(12) - 1;
         due("held(" + r + ")", bags.held(r), model.held(r));
         due("name(" + r + ", " + k + ")", bags.name(r, k), model.name(r, k));
         due("octet(" + r + ", " + name + ", " + k + ")", bags.octet(r, name, k), model.octet(r, name, k));

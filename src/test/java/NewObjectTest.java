@@ -45,11 +45,11 @@ public final class NewObjectTest {
         for (java.lang.reflect.Method method : ArtifactBags.class.getDeclaredMethods()) {
             boolean open = !java.lang.reflect.Modifier.isPrivate(method.getModifiers());
             boolean inFace = (" " + FACE + " ").contains(" " + method.getName() + " ");
-            Check.due("openness of " + method.getName(), open, inFace);
+            Check.due("openness of " + method.getName(), open && !method.isSynthetic(), inFace);
         }
         for (java.lang.reflect.Field field : ArtifactBags.class.getDeclaredFields()) {
             boolean open = !java.lang.reflect.Modifier.isPrivate(field.getModifiers());
-            Check.due("openness of " + field.getName(), open, field.getName().equals("NONE"));
+            Check.due("openness of " + field.getName(), open && !field.isSynthetic(), field.getName().equals("NONE"));
         }
         Check.due("constructors", ArtifactBags.class.getDeclaredConstructors().length, 1);
         Check.due("public and final", ArtifactBags.class.getModifiers(),

@@ -20,6 +20,7 @@ public final class RoundEdgeTest {
             askedIsReplaced(r);
             askedButHeldLater(r);
         }
+        sentButNotTaken();
         nothingIsAskedForAtFirst();
         eachMessageHasTheWholeBudget();
         whatIsTakenIsFollowedInTheSameRound();
@@ -254,6 +255,18 @@ public final class RoundEdgeTest {
         Texts.dueHeld(x, 1 - r, Texts.named(100, 4));
         dueCounts(x, r, 1, 1, 0);
         Check.due("round(4) again", x.round(4), 0);
+    }
+
+    /** What is sent costs its bytes and is counted, even if it is not taken. */
+    private static void sentButNotTaken() {
+        for (int budget = 3; budget <= 8; budget++) {
+            ArtifactBags x = new ArtifactBags();
+            putLoose(x, 0, 100, 2);
+            Check.due("round(0)", x.round(0), 0);
+            Texts.put(x, 1, Texts.named(100, 4));
+            Check.due("round(" + budget + ")", x.round(budget), budget / 4);
+            Check.due("kind(1, 110)", x.kind(1, 110), budget < 8 ? -1 : 0);
+        }
     }
 
     /** "first its artifacts are held ..; then the names told that aren't held are wanted" */
