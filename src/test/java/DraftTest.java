@@ -8,8 +8,10 @@ public final class DraftTest {
         wrongNumbersAreRefused();
         cardsStopAt240();
         zHasTheDigestOfTheDraftBefore();
+        cardsNeedNotBeAtTheirPlace();
         rawAppendsLowestBytesFirst();
         rawRefuses();
+        rawStopsAt240();
         dropEmpties();
         Check.finish();
     }
@@ -133,6 +135,23 @@ public final class DraftTest {
         dueText("two Z cards behind bytes 0 and 255", x, Texts.sealed(Texts.sealed("\0\u00ff")));
     }
 
+    /** "(The card need not be at its place.)": each kind behind each other one, and behind bytes that are no line. */
+    private static void cardsNeedNotBeAtTheirPlace() {
+        String[] texts = {"D 3\n", "F 3 aaaaae\n", "M aaaaad\n", "P aaaaad aaaaae\n", "R aaaaad\n", "T +3 aaaaae\n"};
+        for (int first = 0; first < 6; first++) {
+            for (int second = 0; second < 6; second++) {
+                ArtifactBags x = new ArtifactBags();
+                x.raw('x', 1);
+                String text = "x" + texts[first] + texts[second];
+                x.card(first, 3, 4);
+                Check.due("card(" + second + ", 3, 4)", x.card(second, 3, 4), text.length());
+                Check.due("card(6, 0, 0)", x.card(6, 0, 0), text.length() + 9);
+                Check.due("card(" + first + ", 3, 4) behind Z", x.card(first, 3, 4), text.length() + 9 + texts[first].length());
+                dueText("cards " + first + ", " + second, x, Texts.sealed(text) + texts[first]);
+            }
+        }
+    }
+
     private static void rawAppendsLowestBytesFirst() {
         ArtifactBags x = new ArtifactBags();
         Check.due("raw of 8", x.raw(0x8001fe7f0a00ff41L, 8), 8);
@@ -152,6 +171,20 @@ public final class DraftTest {
         Check.due("raw up to 240", x.raw(0x7a7a7a7a7a7a7aL, 7), 240);
         Check.due("raw at 240", x.raw(1, 1), -1);
         dueText("the draft of 240", x, "y".repeat(233) + "z".repeat(7));
+    }
+
+    /** "or it would be longer than 240": for each n the last draft with room, and the first without. */
+    private static void rawStopsAt240() {
+        for (int n = 1; n <= 8; n++) {
+            ArtifactBags x = new ArtifactBags();
+            Texts.write(x, "y".repeat(240 - n));
+            Check.due("raw of " + n + " up to 240", x.raw(0x7a7a7a7a7a7a7a7aL, n), 240);
+            dueText("the draft of 240", x, "y".repeat(240 - n) + "z".repeat(n));
+            ArtifactBags y = new ArtifactBags();
+            Texts.write(y, "y".repeat(241 - n));
+            Check.due("raw of " + n + " beyond 240", y.raw(0x7a7a7a7a7a7a7a7aL, n), -1);
+            dueText("the draft after it", y, "y".repeat(241 - n));
+        }
     }
 
     private static void dropEmpties() {
