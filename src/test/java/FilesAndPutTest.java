@@ -43,6 +43,12 @@ public final class FilesAndPutTest {
         dueFiles(x, open, 7);
         dueFiles(x, "F 1 aaaaaa", 7);
         dueFiles(x, file + open, Texts.digest("one"));
+        String[] behind = {"x", " ", "\r", "\0", "\u000b", "\u00ff", "xx", open};
+        for (String rest : behind) {
+            dueFiles(x, open + rest, 7);
+            dueFiles(x, file + open + rest, Texts.digest("one"));
+            dueFiles(x, file + rest, Texts.digest("one"));
+        }
         dueFiles(x, "x" + file, 7);
         dueFiles(x, "x\n\n" + file, Texts.digest("one"));
         dueFiles(x, "\n" + file, Texts.digest("one"));
