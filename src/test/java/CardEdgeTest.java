@@ -50,6 +50,12 @@ public final class CardEdgeTest {
             dueKind(0, texts[i].substring(0, texts[i].length() - 1) + "\r");
             dueKind(0, texts[i].substring(0, texts[i].length() - 1) + "\u008a");
         }
+        // As many bytes behind the Z line as its digest reaches into that line: plain, though the last 9 bytes would fit.
+        String[] bodies = {MANIFEST, CONTROL, CLUSTER};
+        for (String body : bodies) {
+            dueKind(0, body + Texts.line('Z', Texts.digest(body + "Z")) + "x");
+            dueKind(0, body + Texts.line('Z', Texts.digest(body + "Z ")) + "xx");
+        }
     }
 
     /** "D n, n a number 0 .. 9999 without zeros before it" */
